@@ -188,7 +188,8 @@ public final class CleanChecks {
     public boolean move(int shape, long dx, long dy) throws IndexOutOfBoundsException {
         Shape moved = anyShape(shape);
         for (int i = 0; i < moved.corners; i++) {
-            if (!isStep(dx, dy) || !isPlace(moved.xs[i] + dx, moved.ys[i] + dy)) {
+            // A sum that wraps around comes out far outside too.
+            if (!isPlace(moved.xs[i] + dx, moved.ys[i] + dy)) {
                 return false;
             }
         }
@@ -255,11 +256,6 @@ public final class CleanChecks {
         return x >= -FARTHEST && x <= FARTHEST && y >= -FARTHEST && y <= FARTHEST;
     }
 
-    /** Whether some corner could be moved so far: a longer step might wrap around in a sum. */
-    private static boolean isStep(long dx, long dy) {
-        return dx >= -2 * FARTHEST && dx <= 2 * FARTHEST && dy >= -2 * FARTHEST && dy <= 2 * FARTHEST;
-    }
-
     private boolean isWaived(int mark) {
         for (int i = 0; i < waivedCount; i++) {
             if (waivedMarks[i] == mark) {
@@ -284,24 +280,61 @@ public final class CleanChecks {
         for (int i = 0; i < shapes.size(); i++) {
             Shape one = shapes.get(i);
             if (one.isClosed() && one.stripAmong(stripCount) == strip) {
-                checkAlone(into, one);
+                checkWidth(into, one);
+                checkRing(into, one);
+                checkEnds(into, one);
+                checkAcute(into, one);
                 checkPairs(into, one);
             }
         }
     }
 
-    private void checkAlone(Findings into, Shape one) {
+    private void checkWidth(Findings into, Shape one) {
         if (one.isCopper() && 2 * one.radius < valueForOne(WIDTH, one.group)) {
             into.add(WIDTH, one, NONE);
         }
-        if (one.kind == HOLE && lacksRing(one, valueForOne(RING, one.group))) {
-            into.add(RING, one, NONE);
+    }
+
+    private void checkRing(Findings into, Shape hole) {
+        long value = hole.kind == HOLE ? valueForOne(RING, hole.group) : NONE;
+        if (value == NONE) {
+            return;
         }
-        if (one.kind == TRACK && valueForOne(ENDS, one.group) != NONE && hasLooseEnd(one)) {
-            into.add(ENDS, one, NONE);
+        for (int i = 0; i < shapes.size(); i++) {
+            Shape pad = shapes.get(i);
+            boolean fits = pad.isClosed() && pad.kind == PAD && pad.sharesNet(hole);
+            if (fits && pad.reachesCorners(hole, pad.radius - hole.radius - value)) {
+                return;
+            }
         }
-        if (one.kind == TRACK && valueForOne(ACUTE, one.group) != NONE && one.hasAcuteCorner()) {
-            into.add(ACUTE, one, NONE);
+        into.add(RING, hole, NONE);
+    }
+
+    private void checkEnds(Findings into, Shape track) {
+        if (track.kind != TRACK || valueForOne(ENDS, track.group) == NONE) {
+            return;
+        }
+        int last = Math.max(0, track.corners - 1);
+        if (isLoose(track, 0) || isLoose(track, last)) {
+            into.add(ENDS, track, NONE);
+        }
+    }
+
+    private boolean isLoose(Shape track, int end) {
+        for (int i = 0; i < shapes.size(); i++) {
+            Shape other = shapes.get(i);
+            boolean joins = i != track.number && other.isClosed() && other.isCopper()
+                    && other.layer == track.layer && other.sharesNet(track);
+            if (joins && other.reaches(track.xs[end], track.ys[end], other.radius)) {
+                return false;
+            }
+        }
+        return true;
+    }
+
+    private void checkAcute(Findings into, Shape track) {
+        if (track.kind == TRACK && valueForOne(ACUTE, track.group) != NONE && track.hasAcuteCorner()) {
+            into.add(ACUTE, track, NONE);
         }
     }
 
@@ -327,7 +360,7 @@ public final class CleanChecks {
         if (a.isCopper() && b.isCopper()) {
             return a.sharesNet(b) ? NONE : CLEAR;
         }
-        boolean printOnPad = a.kind == PRINT && b.kind == PAD || a.kind == PAD && b.kind == PRINT;
+        boolean printOnPad = (a.kind == PRINT && b.kind == PAD) || (a.kind == PAD && b.kind == PRINT);
         return printOnPad ? SILK : NONE;
     }
 
@@ -353,40 +386,9 @@ public final class CleanChecks {
         return NONE;
     }
 
-    private boolean lacksRing(Shape hole, long value) {
-        if (value == NONE) {
-            return false;
-        }
-        for (int i = 0; i < shapes.size(); i++) {
-            Shape pad = shapes.get(i);
-            boolean fits = pad.isClosed() && pad.kind == PAD && pad.sharesNet(hole);
-            if (fits && pad.reachesCorners(hole, pad.radius - hole.radius - value)) {
-                return false;
-            }
-        }
-        return true;
-    }
-
-    private boolean hasLooseEnd(Shape track) {
-        int last = Math.max(0, track.corners - 1);
-        return isLoose(track, 0) || isLoose(track, last);
-    }
-
-    private boolean isLoose(Shape track, int end) {
-        for (int i = 0; i < shapes.size(); i++) {
-            Shape other = shapes.get(i);
-            boolean joins = i != track.number && other.isClosed() && other.isCopper()
-                    && other.layer == track.layer && other.sharesNet(track);
-            if (joins && other.reaches(track.xs[end], track.ys[end], other.radius)) {
-                return false;
-            }
-        }
-        return true;
-    }
-
     /** Corners, the line between them, and once it is closed a radius. */
     private static final class Shape {
-        /** 2^30: products of longs below 2^44 are compared in two parts, as one long does not hold them. */
+        /** Products of longs below 2^44 are above what a long holds: they are compared in parts of 2 * HALF bits. */
         private static final int HALF = 30;
         private static final long HALF_MASK = (1L << HALF) - 1;
         private static final long LOWER_MASK = (1L << (2 * HALF)) - 1;
@@ -501,28 +503,26 @@ public final class CleanChecks {
 
         /** Whether the ends of the other's piece lie strictly on both sides of this one's. */
         private boolean parts(int piece, Shape other, int otherPiece) {
-            int one = Long.signum(turn(piece, other.xs[otherPiece], other.ys[otherPiece]));
-            int two = Long.signum(turn(piece, other.xs[otherPiece + 1], other.ys[otherPiece + 1]));
-            return one * two < 0;
+            long first = turn(piece, other.xs[otherPiece], other.ys[otherPiece]);
+            long last = turn(piece, other.xs[otherPiece + 1], other.ys[otherPiece + 1]);
+            return (first < 0 && last > 0) || (first > 0 && last < 0);
         }
 
+        /** A line of one corner is one piece, which ends where it begins. */
         private int pieces() {
             return Math.max(1, corners - 1);
         }
 
-        /** A line of one corner is one piece, which ends where it begins. */
-        private int endOf(int piece) {
-            return Math.max(0, Math.min(piece + 1, corners - 1));
-        }
-
+        /** Above or below 0 as the place lies on one side of the piece or the other, 0 straight ahead. */
         private long turn(int piece, long x, long y) {
-            int end = endOf(piece);
-            return (xs[end] - xs[piece]) * (y - ys[piece]) - (ys[end] - ys[piece]) * (x - xs[piece]);
+            long alongX = xs[piece + 1] - xs[piece];
+            long alongY = ys[piece + 1] - ys[piece];
+            return alongX * (y - ys[piece]) - alongY * (x - xs[piece]);
         }
 
         /** Below, at or above 0: the place is nearer to the piece than the limit, just so far, or farther. */
         private int compareToPiece(int piece, long x, long y, long limit) {
-            int end = endOf(piece);
+            int end = piece + 1 < corners ? piece + 1 : piece;
             long alongX = xs[end] - xs[piece];
             long alongY = ys[end] - ys[piece];
             long length = alongX * alongX + alongY * alongY;
@@ -533,9 +533,9 @@ public final class CleanChecks {
             if (foot >= length) {
                 return Long.compare(squareTo(end, x, y), limit * limit);
             }
-            long turn = Math.abs(turn(piece, x, y));
-            int byUpper = Long.compare(upper(turn, turn), upper(limit * limit, length));
-            return byUpper != 0 ? byUpper : Long.compare(lower(turn, turn), lower(limit * limit, length));
+            long area = Math.abs(alongX * (y - ys[piece]) - alongY * (x - xs[piece]));
+            int byUpper = Long.compare(upper(area, area), upper(limit * limit, length));
+            return byUpper != 0 ? byUpper : Long.compare(lower(area, area), lower(limit * limit, length));
         }
 
         private long squareTo(int corner, long x, long y) {
@@ -573,7 +573,7 @@ public final class CleanChecks {
         }
 
         boolean takesPair(int groupA, int groupB) {
-            return takesFirst(groupA) && takesSecond(groupB) || takesFirst(groupB) && takesSecond(groupA);
+            return (takesFirst(groupA) && takesSecond(groupB)) || (takesFirst(groupB) && takesSecond(groupA));
         }
 
         private boolean takesSecond(int group) {
@@ -609,8 +609,10 @@ public final class CleanChecks {
             if (count >= keys.length) {
                 return;
             }
-            long layerAndPlace = (long) a.layer << LAYER_AT | (a.xs[0] + FARTHEST) << X_AT | (a.ys[0] + FARTHEST) << Y_AT;
-            keys[count] = layerAndPlace | kind << KIND_AT | a.number << A_AT | (b - NONE);
+            long layer = (long) a.layer << LAYER_AT;
+            long place = ((a.xs[0] + FARTHEST) << X_AT) | ((a.ys[0] + FARTHEST) << Y_AT);
+            long mark = (kind << KIND_AT) | (a.number << A_AT) | (b - NONE);
+            keys[count] = layer | place | mark;
             count++;
         }
 
@@ -679,7 +681,7 @@ public final class CleanChecks {
         }
 
         private long part(int k, int at, int bits) {
-            return keys[k] >> at & ((1L << bits) - 1);
+            return (keys[k] >> at) & ((1L << bits) - 1);
         }
     }
 }

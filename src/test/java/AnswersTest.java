@@ -198,9 +198,13 @@ public final class AnswersTest {
         board.run();
         due.is("x", x.place(0, 0), -1_000_000);
         due.is("y", x.place(0, 1), -1_000_000);
+        board.add(Board.PAD, 1, 0, 9, -1_000_000, 1_000_000);
+        due.no("one too far across", x.move(1, 2_000_001, 0));
+        due.yes("all across", x.move(1, 2_000_000, -2_000_000));
+        due.yes("and back", x.move(1, -2_000_000, 2_000_000));
         x.shape(0, 0, 0);
-        due.yes("without corners, however far", x.move(1, Long.MAX_VALUE, Long.MIN_VALUE));
-        due.yes("and nothing is changed", x.corner(1, 0, 0));
+        due.yes("without corners, however far", x.move(2, Long.MAX_VALUE, Long.MIN_VALUE));
+        due.yes("and nothing is changed", x.corner(2, 0, 0));
     }
 
     private static void plain() {

@@ -8,6 +8,7 @@ public final class ChecksTest {
         clearNetsAndLayers();
         clearOfLines();
         clearExactlyFarOut();
+        clearAtWholeDistances();
         width();
         holes();
         silk();
@@ -101,6 +102,32 @@ public final class ChecksTest {
         due.is("both diagonals", found(0, 0, corners), 1);
     }
 
+    /** Slopes whose lengths are whole: the distance is exactly the limit, which another writing of the product shows. */
+    private static void clearAtWholeDistances() {
+        long[][] slopes = {{3, 4, 5}, {5, 12, 13}, {20, 21, 29}, {119, 120, 169}, {696, 697, 985}, {4_059, 4_060, 5_741}};
+        for (long[] slope : slopes) {
+            for (long times : new long[] {1, 3, 77, 1_000_000 / slope[1]}) {
+                for (long off = 1; off * slope[2] <= 100_000; off = off * 3 + 1) {
+                    wholeDistance(slope, times, off);
+                }
+            }
+        }
+    }
+
+    private static void wholeDistance(long[] slope, long times, long off) {
+        if (times * slope[1] > 1_000_000) {
+            return;
+        }
+        long x = slope[0] * times;
+        long y = slope[1] * times;
+        long footX = times == 1 ? 0 : slope[0];
+        long footY = times == 1 ? 0 : slope[1];
+        Board board = far(new long[] {-x, -y, x, y}, footX - slope[1] * off, footY + slope[0] * off);
+        String call = slope[2] + " times " + times + ", off by " + off;
+        due.is("just far enough, " + call, found(0, slope[2] * off - 2, board), 0);
+        due.is("one too close, " + call, found(0, slope[2] * off - 1, board), 1);
+    }
+
     private static Board far(long[] line, long x, long y) {
         Board board = new Board(1);
         board.add(Board.PAD, 1, 0, 1, line);
@@ -191,6 +218,14 @@ public final class ChecksTest {
         bent.add(Board.HOLE, 1, 0, 2, 0, 0, 50, 50, 100, 0);
         bent.add(Board.PAD, 1, 0, 5, 0, 0, 100, 0);
         due.is("an inner corner counts", found(4, 0, bent), 1);
+        Board long8 = new Board(1);
+        long8.add(Board.HOLE, 1, 0, 2, 500, 500, 510, 500, 520, 500, 530, 500, 540, 500, 550, 500, 560, 500, 570, 500);
+        long8.add(Board.PAD, 1, 0, 5, 500, 503, 570, 503);
+        due.is("eight corners, far from the origin", found(4, 0, long8), 0);
+        Board two = new Board(1);
+        two.add(Board.HOLE, 1, 0, 2, 500, 500, 510, 500);
+        two.add(Board.PAD, 1, 0, 5, 500, 503, 570, 503);
+        due.is("two corners, far from the origin", found(4, 0, two), 0);
     }
 
     private static Board trackBetween(int net, int padNet, long firstX, long lastX) {

@@ -24,19 +24,24 @@ final class Due {
         is(call, got ? 1 : 0, 0);
     }
 
-    /** The very class is due: a subclass of it would be the machine's own exception. */
+    /** The very class is due, thrown by CleanChecks itself: else it is the machine's own, or the library's. */
     void fails(String call, Class<? extends RuntimeException> want, Runnable made) {
         asked++;
-        Class<?> got = null;
+        RuntimeException got = null;
         try {
             made.run();
         } catch (RuntimeException e) {
-            got = e.getClass();
+            got = e;
         }
-        if (got != want) {
+        if (got == null || got.getClass() != want || !isOwn(got)) {
             wrong++;
             System.out.println(test + ": " + call + " threw " + got + ", due is " + want);
         }
+    }
+
+    static boolean isOwn(RuntimeException thrown) {
+        StackTraceElement[] trace = thrown.getStackTrace();
+        return trace.length > 0 && trace[0].getClassName().startsWith("CleanChecks");
     }
 
     void end() {

@@ -55,10 +55,22 @@ public final class ModelTest {
     /** Answers what CleanChecks answered. */
     private String same(String call, Call ours, Call theirs) {
         calls++;
-        String got = answer(ours);
+        String got = answer(() -> own(ours));
         String want = answer(theirs);
         due.yes(call + " (" + got + ", by the model " + want + ")", got.equals(want));
         return got;
+    }
+
+    /** What the machine or the library throws is no answer of CleanChecks. */
+    private static long own(Call call) {
+        try {
+            return call.made();
+        } catch (RuntimeException e) {
+            if (Due.isOwn(e)) {
+                throw e;
+            }
+            throw new AssertionError("not thrown by CleanChecks itself", e);
+        }
     }
 
     private static String answer(Call call) {
