@@ -290,6 +290,7 @@ public final class CleanChecks {
     }
 
     private void checkWidth(Findings into, Shape one) {
+        // Without a rule the value is NONE, which no width is below.
         if (one.isCopper() && 2 * one.radius < valueForOne(WIDTH, one.group)) {
             into.add(WIDTH, one, NONE);
         }
