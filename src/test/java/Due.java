@@ -1,18 +1,68 @@
+import java.io.IOException;
+import java.nio.file.Files;
+import java.nio.file.Path;
+
 /** Counts the answers that are not the ones due, and ends the program with 1 if there was one. */
 final class Due {
+    private static final Path DOCUMENT = Path.of("../shared/DOC.md");
+    /** Far above what any test takes. */
+    private static final long LONGEST_MILLIS = 300_000;
+
     private final String test;
+    private final String document;
+    private volatile String about;
+    private int sentences;
     private int asked;
     private int wrong;
 
     Due(String test) {
         this.test = test;
+        document = read();
+        about = "";
+        watch();
+    }
+
+    /** A call that does not end is a wrong answer too. */
+    private void watch() {
+        Thread watcher = new Thread(() -> {
+            try {
+                Thread.sleep(LONGEST_MILLIS);
+            } catch (InterruptedException e) {
+                return;
+            }
+            System.out.println(test + about + ": did not end");
+            Runtime.getRuntime().halt(1);
+        });
+        watcher.setDaemon(true);
+        watcher.start();
+    }
+
+    /** A document that is not there cannot be looked into: the tests are run all the same. */
+    private static String read() {
+        try {
+            return Files.exists(DOCUMENT) ? Files.readString(DOCUMENT) : null;
+        } catch (IOException e) {
+            return null;
+        }
+    }
+
+    /** A test of the document's own words; what it throws is a wrong answer, and the next one is still run. */
+    void sentence(String words, Runnable made) {
+        sentences++;
+        about = " [" + words + "]";
+        yes("these are words of the document", document == null || document.contains(words));
+        try {
+            made.run();
+        } catch (RuntimeException e) {
+            yes("ended by " + e, false);
+        }
+        about = "";
     }
 
     void is(String call, long got, long want) {
         asked++;
         if (got != want) {
-            wrong++;
-            System.out.println(test + ": " + call + " answered " + got + ", due is " + want);
+            tell(call + " answered " + got + ", due is " + want);
         }
     }
 
@@ -34,8 +84,7 @@ final class Due {
             got = e;
         }
         if (got == null || got.getClass() != want || !isOwn(got)) {
-            wrong++;
-            System.out.println(test + ": " + call + " threw " + got + ", due is " + want);
+            tell(call + " threw " + got + ", due is " + want);
         }
     }
 
@@ -44,8 +93,14 @@ final class Due {
         return trace.length > 0 && trace[0].getClassName().startsWith("CleanChecks");
     }
 
+    private void tell(String what) {
+        wrong++;
+        System.out.println(test + about + ": " + what);
+    }
+
     void end() {
-        System.out.println(test + ": " + asked + " asked, " + wrong + " wrong");
+        String of = sentences > 0 ? sentences + " sentences, " : "";
+        System.out.println(test + ": " + of + asked + " asked, " + wrong + " wrong");
         if (wrong != 0) {
             System.exit(1);
         }

@@ -8,6 +8,8 @@ import java.nio.file.Path;
 import java.util.Arrays;
 import java.util.Set;
 import java.util.TreeSet;
+import java.util.regex.Matcher;
+import java.util.regex.Pattern;
 
 /** The document's face, and what a program can see of LANGUAGE.md's rules 1, 4, 5, 6 and 11. */
 public final class LanguageTest {
@@ -73,17 +75,19 @@ public final class LanguageTest {
         for (String method : FACE) {
             names.add(method.substring(method.indexOf(' ') + 1, method.indexOf('(')));
         }
+        methods(CleanChecks.class, names);
         for (Class<?> inner : CleanChecks.class.getDeclaredClasses()) {
             int modifiers = inner.getModifiers();
-            due.yes("private static: " + inner, Modifier.isPrivate(modifiers) && Modifier.isStatic(modifiers));
-            for (Method method : inner.getDeclaredMethods()) {
-                due.no("a name of the face: " + method, names.contains(method.getName()));
-                due.yes("seven parameters at most: " + method, method.getParameterCount() <= 7);
-            }
+            due.no("seen from outside: " + inner, Modifier.isPublic(modifiers) || Modifier.isProtected(modifiers));
+            methods(inner, names);
         }
-        for (Method method : CleanChecks.class.getDeclaredMethods()) {
+    }
+
+    private static void methods(Class<?> of, Set<String> face) {
+        for (Method method : of.getDeclaredMethods()) {
             boolean hidden = Modifier.isPrivate(method.getModifiers());
-            due.no("a name of the face: " + method, hidden && names.contains(method.getName()));
+            due.no("a name of the face: " + method, hidden && face.contains(method.getName()));
+            due.yes("seven parameters at most: " + method, method.getParameterCount() <= 7);
         }
     }
 
@@ -97,15 +101,28 @@ public final class LanguageTest {
         }
     }
 
+    /** What the rules leave is let pass, though the program does without it. */
     private static void source(String text) {
-        String[] ruledOut = {"->", "::", "catch", "finally", "synchronized", "assert", "Exact(", "instanceof",
-            "static {", "package ", "System.", "Thread", "Random", "double", "float", "toString", "hashCode"};
-        for (String word : ruledOut) {
-            due.no("the program has " + word, text.contains(word));
-        }
-        long imports = text.lines().filter(line -> line.startsWith("import ")).count();
-        due.is("imports", imports, 1);
-        due.yes("of ArrayList", text.contains("import java.util.ArrayList;"));
         due.yes("characters 0 to 255", text.chars().allMatch(c -> c < 256));
+        String code = text.replaceAll("(?s)/\\*.*?\\*/", " ").replaceAll("\"(\\\\.|[^\"\\\\])*\"", "TEXT")
+                .replaceAll("//[^\\n]*", " ");
+        String[] ruledOut = {"::", "\\bfinally\\b", "\\bsynchronized\\b", "\\bassert\\b", "Exact\\(",
+            "\\bstatic\\s*\\{", "\\bpackage\\b", "\\bSystem\\.(?!arraycopy\\()", "\\bThread\\b", "\\bRandom\\b",
+            "\\bhashCode\\b", "\\bgetMessage\\b", "\\btry\\s*\\(", "extends\\s+\\w*(Exception|Error|Throwable)\\b"};
+        for (String form : ruledOut) {
+            due.no("the program has " + form, Pattern.compile(form).matcher(code).find());
+        }
+        all(code, "import\\s+(?:static\\s+)?([\\w.*]+);",
+                "java\\.util\\.(ArrayList|List|Arrays|Iterator|NoSuchElementException)");
+        all(code, "\\bthrow\\s+([^;(]+)", "new\\s+(IllegalState|IllegalArgument|IndexOutOfBounds|Arithmetic"
+                + "|UnsupportedOperation|NoSuchElement|Runtime)Exception\\s*");
+        all(code, "\\b(\\w+)[^;{}]*->", "case|default");
+    }
+
+    private static void all(String code, String form, String good) {
+        Matcher found = Pattern.compile(form).matcher(code);
+        while (found.find()) {
+            due.yes("good: " + found.group(), found.group(1).matches(good));
+        }
     }
 }

@@ -240,7 +240,8 @@ final class Model {
             }
             for (int b = a + 1; b < shapes.size(); b++) {
                 for (int kind : new int[] {0, 2, 3}) {
-                    if (shapes.get(a).closed && shapes.get(b).closed && breaksPair(kind, shapes.get(a), shapes.get(b))) {
+                    boolean closed = shapes.get(a).closed && shapes.get(b).closed;
+                    if (closed && breaksPair(kind, shapes.get(a), shapes.get(b))) {
                         all.add(violationOf(kind, a, b));
                     }
                 }
