@@ -5,12 +5,10 @@ import java.nio.file.Path;
 /** Counts the answers that are not the ones due, and ends the program with 1 if there was one. */
 final class Due {
     private static final Path DOCUMENT = Path.of("../shared/DOC.md");
-    /** Far above what any test takes. */
-    private static final long LONGEST_MILLIS = 300_000;
 
     private final String test;
     private final String document;
-    private volatile String about;
+    private String about;
     private int sentences;
     private int asked;
     private int wrong;
@@ -19,22 +17,6 @@ final class Due {
         this.test = test;
         document = read();
         about = "";
-        watch();
-    }
-
-    /** A call that does not end is a wrong answer too. */
-    private void watch() {
-        Thread watcher = new Thread(() -> {
-            try {
-                Thread.sleep(LONGEST_MILLIS);
-            } catch (InterruptedException e) {
-                return;
-            }
-            System.out.println(test + about + ": did not end");
-            Runtime.getRuntime().halt(1);
-        });
-        watcher.setDaemon(true);
-        watcher.start();
     }
 
     /** A document that is not there cannot be looked into: the tests are run all the same. */
