@@ -1,4 +1,6 @@
+import com.sun.management.ThreadMXBean;
 import java.io.IOException;
+import java.lang.management.ManagementFactory;
 import java.lang.reflect.Constructor;
 import java.lang.reflect.Field;
 import java.lang.reflect.Method;
@@ -11,9 +13,11 @@ import java.util.TreeSet;
 import java.util.regex.Matcher;
 import java.util.regex.Pattern;
 
-/** The document's face, and what a program can see of LANGUAGE.md's rules 1, 4, 5, 6 and 11. */
+/** The document's face, and what a program can see of LANGUAGE.md's rules 1, 4, 5, 6, 11 and 12. */
 public final class LanguageTest {
     private static final Due due = new Due("LanguageTest");
+    /** A hundredth of what a run of calls may make. */
+    private static final long MOST_BYTES = 8 * 73_000L;
     private static final String INDEX = "IndexOutOfBoundsException";
     private static final String STATE = "IllegalStateException";
     private static final String ARGUMENT = "IllegalArgumentException";
@@ -41,6 +45,7 @@ public final class LanguageTest {
         hiddenMembers();
         staticFields();
         source(Files.readString(Path.of("src/main/java/CleanChecks.java")));
+        room();
         due.end();
     }
 
@@ -124,5 +129,25 @@ public final class LanguageTest {
         while (found.find()) {
             due.yes("good: " + found.group(), found.group(1).matches(good));
         }
+    }
+
+    /** The dearest calls, with as many violations as there can be, all in one room. */
+    private static void room() {
+        ThreadMXBean threads = (ThreadMXBean) ManagementFactory.getThreadMXBean();
+        long before = threads.getCurrentThreadAllocatedBytes();
+        Board board = new Board(1).rule(0, 5).rule(1, 9).rule(5, 0).rule(6, 0);
+        for (int i = 0; i < 60; i++) {
+            board.add(Board.TRACK, i, 0, 1, 60 - i, 0, 90, 0, 60 - i, 1);
+        }
+        long built = threads.getCurrentThreadAllocatedBytes();
+        int found = 0;
+        for (int calls = 4 + 60 * 5; calls < 512; calls += 2) {
+            found += board.checks.run(8, calls);
+            board.checks.plain();
+        }
+        long after = threads.getCurrentThreadAllocatedBytes();
+        due.is("found", found, 104L * (60 * 59 / 2 + 180));
+        due.yes("the room of an object: " + (built - before), built - before < MOST_BYTES);
+        due.yes("run and plain make little: " + (after - built), after - built < MOST_BYTES / 100);
     }
 }
